@@ -25,6 +25,7 @@ public final class PositionDesk {
     private static final long MOST_AMOUNT = 999_999_999_999_999L;
     private static final long MOST_CREDIT = 4_000_000_000_000_000_000L;
     private static final long LEAST_OF_BANK = -4_000_000_000_000_000_000L;
+    private static final long NO_FLOOR = -9_223_372_036_854_775_808L;
 
     private final int participants;
     private final int positions;
@@ -159,7 +160,7 @@ public final class PositionDesk {
     }
 
     public boolean holds() {
-        // Only what a leg takes from can have a net below 0, so the takings of each leg are all there is to look at.
+        // Only what some leg takes from can have a net below 0: no other position or room need be looked at.
         for (int i = 0; i < legs.count; i++) {
             if (breaksFloor(legs.from[i], legs.asset[i]) || breaksRoom(i)) {
                 return false;
@@ -281,14 +282,14 @@ public final class PositionDesk {
         return number;
     }
 
-    /** What a hundred pieces of a security are good for: only this of price and haircut is ever needed. */
+    /** The credit for a hundred pieces: of price and haircut no more than this is ever needed. */
     private static long rateOf(long price, int haircut) {
         return price * (100 - haircut);
     }
 
     private long lowest(Asset asset, int p) {
         if (p == BANK) {
-            return Long.MIN_VALUE;
+            return NO_FLOOR;
         }
         if (asset.isSecurity) {
             return asset.pledged[p];
@@ -298,7 +299,7 @@ public final class PositionDesk {
 
     // ---- credit inside
 
-    /** The credit of p if so much of a security were pledged at such a rate; told as too much, not exactly, beyond the most. */
+    /** The credit of p with so much pledged at such a rate; MOST_CREDIT + 1 stands for all that is more. */
     private long creditWith(Asset security, int p, long pledged, long rate) {
         long others = credits[p] - worth(security.pledged[p], security.rate);
         return Math.min(others + worth(pledged, rate), MOST_CREDIT + 1);

@@ -77,6 +77,7 @@ public final class PromiseTests {
         due(told + "value of the last", x.value(wantP * wantA - 1), 7);
         due(told + "value of the bank", x.value(wantA - 1), -7);
         due(told + "give behind the last", x.give(wantP, 0, 7), 8);
+        due(told + "give of none behind the last", x.give(1, wantA, 7), 8);
     }
 
     private static void currency() {
@@ -247,6 +248,24 @@ public final class PromiseTests {
         due("floor", x.floor(position(1, 1)), 3_999_999_999_999L);
         due("less", x.free(1, 1, 1), 0);
         due("again", x.pledge(2, 1, 1), 0);
+        pledgeToTheTop();
+    }
+
+    /** One participant has all the credit that there may be, and not 1 more of any security. */
+    private static void pledgeToTheTop() {
+        PositionDesk x = new PositionDesk(8, 6);
+        due("security", x.security(1_000_000, 0), 0);
+        due("security", x.security(1, 0), 1);
+        due("give", x.give(1, 0, MOST), 0);
+        due("give", x.give(1, 1, 5), 0);
+        due("give", x.give(2, 1, 5), 0);
+        due("all that there may be", x.pledge(1, 0, 4_000_000_000_000L), 0);
+        due("credit", x.credit(1), TOP);
+        due("1 more", x.pledge(1, 1, 1), 10);
+        due("1 more of another", x.pledge(2, 1, 1), 10);
+        due("worth nothing", x.price(1, 1, 1), 0);
+        due("so it can be pledged", x.pledge(2, 1, 1), 0);
+        due("but not get a worth", x.price(1, 1, 0), 10);
     }
 
     private static void free() {
