@@ -329,6 +329,23 @@ public final class PromiseSentences {
         }
     }
 
+    private static void fortyLimitsOfOne() {
+        sentence(9, "12: there are 40 others");
+        Desk x = new Desk(256, 1);
+        for (int q = 2; q <= 41; q++) {
+            due("limit(1, " + q + ")", x.limit(1, q, q), 0);
+        }
+        due("the 41st of 1", x.limit(1, 42, 0), 12);
+        due("the 41st, though the first of another", x.limit(255, 254, 0), 12);
+        due("the 40th gets another", x.limit(1, 41, 0), 0);
+        due("open in their midst", x.open(1, 20), 0);
+        due("the first of another", x.limit(255, 254, 0), 0);
+        due("the one that was opened", x.limit(1, 20, 0), 12);
+        for (int q = 2; q <= 40; q++) {
+            due("value towards " + q, x.value(256 + 256 + q), q == 20 ? 0 : q);
+        }
+    }
+
     private static void opens() {
         sentence(10, "There is no limit of p towards q any more (8 also if there was none).");
         Desk x = Desk.funded();
@@ -618,6 +635,7 @@ public final class PromiseSentences {
         frees();
         limits();
         fullOfLimits();
+        fortyLimitsOfOne();
         opens();
     }
 

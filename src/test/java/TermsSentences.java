@@ -542,6 +542,9 @@ public final class TermsSentences {
         greatCredit(2_000_000_001, 2_000_000_001, 1, 3_960_000_003_960_000_000L);
         greatCredit(2_000_000_001, 2_000_000_000, 50, 2_000_000_001_000_000_000L);
         greatCredit(1L << 31, 1L << 30, 0, 1L << 61);
+        greatCredit(457_851, 873_646_666_710_349L, 99, TOP - 1);
+        greatCredit(441_870_304_437_593L, 905_243, 99, TOP);
+        greatCredit(905_243, 441_870_304_437_593L, 99, TOP);
     }
 
     private static void greatCredit(long pledged, long price, int haircut, long want) {
@@ -683,36 +686,67 @@ public final class TermsSentences {
         due("price, too high by a million", x.price(SHARE, 1, 0), 10);
     }
 
-    /** With Java's wrap-around these would be small, or below 0. */
+    /** Just too great by the rest of a division, or by so much that Java's wrap-around makes it small or less than 0. */
     private static void creditsWrapAround() {
         sentence("or all credits together more than 4 * 10 ^ 18");
-        long[][] tooGreat = {{1L << 32, 1L << 32}, {1L << 32, 1L << 31}, {1L << 33, 1L << 31}, {1L << 40, 1L << 40},
-            {MOST, MOST}, {MOST, 4_001}, {4_001, MOST}, {MOST, 1L << 14}, {3_037_000_500L, 3_037_000_500L},
-            {2_000_000_001, 2_000_000_000}};
+        long[][] tooGreat = {{122_494_331, 3_265_457_239_813L, 99}, {3_265_457_239_813L, 122_494_331, 99},
+            {4_000_000_000_000L, 100_000_001, 99}, {2_000_000_001, 2_000_000_000, 0}, {MOST, 4_001, 0}, {4_001, MOST, 0},
+            {MOST, MOST, 0}, {MOST, MOST, 99}, {MOST, 1L << 14, 0}, {3_037_000_500L, 3_037_000_500L, 0},
+            {1L << 32, 1L << 32, 0}, {1L << 32, 1L << 31, 0}, {1L << 33, 1L << 31, 50}, {1L << 40, 1L << 40, 36}};
         for (long[] each : tooGreat) {
-            Desk x = Desk.usual();
-            due("give", x.give(1, BOND, each[0]), 0);
-            due("price", x.price(BOND, each[1], 0), 0);
-            due(each[0] + " * " + each[1], x.pledge(1, BOND, each[0]), 10);
-            due("price 0", x.price(BOND, 0, 0), 0);
-            due("pledge", x.pledge(1, BOND, each[0]), 0);
-            due(each[0] + " * " + each[1] + " by price", x.price(BOND, each[1], 0), 10);
-            due("credit", x.credit(1), 0);
+            isTooGreat(each[0], each[1], (int) each[2]);
         }
-        sumWrapsAround();
+        for (int owners = 2; owners < P; owners++) {
+            sumIsTooGreat(owners);
+        }
+    }
+
+    private static void isTooGreat(long pledged, long price, int haircut) {
+        Desk x = Desk.usual();
+        String told = pledged + " * " + price + " less " + haircut + "%";
+        due("give", x.give(1, BOND, pledged), 0);
+        due("price", x.price(BOND, price, haircut), 0);
+        due(told, x.pledge(1, BOND, pledged), 10);
+        due("price 0", x.price(BOND, 0, 0), 0);
+        due("pledge", x.pledge(1, BOND, pledged), 0);
+        due(told + " by price", x.price(BOND, price, haircut), 10);
+        due("credit", x.credit(1), 0);
     }
 
     /** Each credit by itself could be; five together are 2 * 10 ^ 19, which Java would take for 1.55 * 10 ^ 18. */
-    private static void sumWrapsAround() {
-        for (int owners = 2; owners < P; owners++) {
-            Desk x = Desk.usual();
-            due("price", x.price(BOND, 1, 0), 0);
-            for (int p = 1; p <= owners; p++) {
-                due("give", x.give(p, BOND, 4_000), 0);
-                due("pledge", x.pledge(p, BOND, 4_000), 0);
-            }
-            due("price of " + owners, x.price(BOND, MOST, 0), 10);
-            due("credit", x.credit(1), 4_000);
+    private static void sumIsTooGreat(int owners) {
+        Desk x = Desk.usual();
+        due("price", x.price(BOND, 1, 0), 0);
+        for (int p = 1; p <= owners; p++) {
+            due("give", x.give(p, BOND, 4_000), 0);
+            due("pledge", x.pledge(p, BOND, 4_000), 0);
+        }
+        due("price of " + owners, x.price(BOND, MOST, 0), 10);
+        due("credit", x.credit(1), 4_000);
+    }
+
+    /** No price is ever changed here, so that the sum of all credits comes from pledges alone. */
+    private static void allCreditsByPledge() {
+        sentence("or all credits together more than 4 * 10 ^ 18");
+        Desk x = new Desk(3, 2);
+        due("security", x.security(1_000_000, 0), 0);
+        due("security", x.security(1, 0), 1);
+        for (int p = 1; p <= 2; p++) {
+            due("give", x.give(p, 0, MOST), 0);
+            due("give", x.give(p, 1, MOST), 0);
+        }
+        for (int i = 0; i < 3; i++) {
+            due("pledge", x.pledge(1, 0, 3_999_999_999_999L), 0);
+            due("pledge, 1 too much", x.pledge(2, 1, 1_000_001), 10);
+            due("pledge", x.pledge(2, 1, 1_000_000), 0);
+            due("pledge, 1 too much", x.pledge(1, 1, 1), 10);
+            due("free", x.free(2, 1, 1), 0);
+            due("pledge, 1 too much", x.pledge(1, 1, 2), 10);
+            due("pledge", x.pledge(1, 1, 1), 0);
+            due("credits", x.credit(1) + x.credit(2), TOP);
+            due("free", x.free(1, 0, 3_999_999_999_999L), 0);
+            due("free", x.free(1, 1, 1), 0);
+            due("free", x.free(2, 1, 999_999), 0);
         }
     }
 
@@ -982,6 +1016,7 @@ public final class TermsSentences {
         bankFarBelow();
         allCredits();
         allCreditsByPrice();
+        allCreditsByPledge();
         creditsWrapAround();
         faultsInOrder();
         noFault();
