@@ -1,12 +1,12 @@
 /** Says of each wrong answer of which sentence of the document it is, and counts them. */
 final class Check {
     private int wrong = 0;
-    private int sentences = 0;
+    private int tests = 0;
     private String where = "";
 
     /** What follows is of this sentence (or part of one), which stands in that section of the document. */
     void sentence(String section, String words) {
-        sentences++;
+        tests++;
         where = section + ": \"" + words + "\"";
     }
 
@@ -23,7 +23,7 @@ final class Check {
 
     void end() {
         System.out.println(wrong == 0
-                ? "all answers to " + sentences + " sentences are as due"
+                ? "all answers of " + tests + " tests are as due"
                 : wrong + " answers are not as due");
         if (wrong != 0) {
             System.exit(1);
